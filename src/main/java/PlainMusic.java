@@ -1832,6 +1832,11 @@ public final class PlainMusic {
         /** Counts above MOST are held as MOST + 1. */
         private final int[] counts = new int[NAMES_MOST * ENDS * ENDS];
         private int found;
+        /** The part that ruleIn has come to: the TREE of this number, by order, of all over these places. */
+        private int partName;
+        private int partFrom;
+        private int partTo;
+        private long partTree;
 
         void forget() {
             found = 0;
@@ -1893,47 +1898,62 @@ public final class PlainMusic {
             if (k < 0 || k >= found || i < 0 || i >= 2 * score.rowLength - 1) {
                 return BAD;
             }
-            int name = score.ruleNames[0];
-            int from = 0;
-            int to = score.rowLength;
-            long tree = k;
+            partName = score.ruleNames[0];
+            partFrom = 0;
+            partTo = score.rowLength;
+            partTree = k;
             int ahead = i;
             for (int turn = 0; turn < 2 * ROW_MOST; turn++) {
-                int rule = 0;
-                while (rule < score.ruleCount && skipsRule(score, rule, name, from, to, tree)) {
-                    tree -= score.ruleNames[rule] == name ? treesBy(score, rule, from, to) : 0;
-                    rule++;
-                }
-                if (rule >= score.ruleCount) {
-                    return BAD;
-                }
-                if (ahead == 0 || score.ruleRights[rule] < 0) {
+                int rule = findRule(score);
+                if (ahead == 0 || rule < 0 || score.ruleRights[rule] < 0) {
                     return rule;
                 }
-                int cut = from + 1;
-                while (cut < to - 1 && tree >= treesCut(score, rule, from, cut, to)) {
-                    tree -= treesCut(score, rule, from, cut, to);
-                    cut++;
-                }
-                long rights = Math.max(1, treesOf(score.ruleRights[rule], cut, to));
-                ahead--;
-                int leftRules = 2 * (cut - from) - 1;
-                if (ahead < leftRules) {
-                    name = score.ruleLefts[rule];
-                    to = cut;
-                    tree /= rights;
-                } else {
-                    name = score.ruleRights[rule];
-                    from = cut;
-                    tree %= rights;
-                    ahead -= leftRules;
+                int cut = findCut(score, rule);
+                int leftRules = 2 * (cut - partFrom) - 1;
+                boolean left = ahead <= leftRules;
+                goDown(score, rule, cut, left);
+                ahead -= left ? 1 : 1 + leftRules;
+            }
+            return BAD;
+        }
+
+        /** The rule of the TREE, which is then told by its number among those of this rule. */
+        private int findRule(Score score) {
+            for (int rule = 0; rule < score.ruleCount; rule++) {
+                if (score.ruleNames[rule] == partName) {
+                    long trees = treesBy(score, rule, partFrom, partTo);
+                    if (partTree < trees) {
+                        return rule;
+                    }
+                    partTree -= trees;
                 }
             }
             return BAD;
         }
 
-        private boolean skipsRule(Score score, int rule, int name, int from, int to, long tree) {
-            return score.ruleNames[rule] != name || tree >= treesBy(score, rule, from, to);
+        /** Where the TREE's right part begins; it is then told by its number among those of this cut. */
+        private int findCut(Score score, int rule) {
+            for (int cut = partFrom + 1; cut < partTo; cut++) {
+                long trees = treesCut(score, rule, partFrom, cut, partTo);
+                if (partTree < trees) {
+                    return cut;
+                }
+                partTree -= trees;
+            }
+            return partTo;
+        }
+
+        private void goDown(Score score, int rule, int cut, boolean left) {
+            long rights = Math.max(1, treesOf(score.ruleRights[rule], cut, partTo));
+            if (left) {
+                partName = score.ruleLefts[rule];
+                partTo = cut;
+                partTree /= rights;
+            } else {
+                partName = score.ruleRights[rule];
+                partFrom = cut;
+                partTree %= rights;
+            }
         }
     }
 
