@@ -262,22 +262,13 @@ public final class PlainMusic {
     private static double addEvent(double sum, Voice voice, int e, int n, int rate) {
         long top = n * voice.startBottom[e] - 2 * voice.startTop[e] * rate;
         long bottom = rate * voice.startBottom[e];
-        long shared = greatestDivisor(top, bottom);
-        double since = (double) (top / shared) / (double) (bottom / shared);
-        double fade = 1.0 - since / secondsLong(voice, e);
+        double length = divided(2 * voice.lengthTop[e], voice.lengthBottom[e]);
+        double fade = 1.0 - divided(top, bottom) / length;
         double all = sum;
         for (int p = 0; p < voice.pitchesOf(e); p++) {
-            double wave = waveAt(voice.keyOf(e, p), top / shared, bottom / shared);
-            all = all + 0.25 * wave * fade;
+            all = all + 0.25 * waveAt(voice.keyOf(e, p), top, bottom) * fade;
         }
         return all;
-    }
-
-    private static double secondsLong(Voice voice, int e) {
-        long top = 2 * voice.lengthTop[e];
-        long bottom = voice.lengthBottom[e];
-        long shared = greatestDivisor(top, bottom);
-        return (double) (top / shared) / (double) (bottom / shared);
     }
 
     /** The wave of a KEY at so many seconds; only the remainder is multiplied, or a long could not hold it. */
@@ -287,12 +278,20 @@ public final class PlainMusic {
         long pitchTop = (8L << (octave + 1)) * RATIO_TOPS[within];
         long whole = secondsBottom * RATIO_BOTTOMS[within];
         long beyond = whole > 0 ? secondsTop % whole * pitchTop % whole : 0;
-        long shared = greatestDivisor(beyond, whole);
-        double x = (double) (beyond / shared) / (double) (whole / shared);
+        double x = divided(beyond, whole);
         if (x < 0.25) {
             return 4.0 * x;
         }
         return x < 0.75 ? 2.0 - 4.0 * x : 4.0 * x - 4.0;
+    }
+
+    /** A fraction made as short as can be, then divided as doubles. */
+    private static double divided(long top, long bottom) {
+        if (bottom <= 0) {
+            return 0.0;
+        }
+        long shared = greatestDivisor(top, bottom);
+        return (double) (top / shared) / (double) (bottom / shared);
     }
 
     /** Of two numbers that are not below 0; never below 1, so that it may divide. */
@@ -716,7 +715,11 @@ public final class PlainMusic {
             soundsRead = 0;
             boolean more = true;
             for (int turn = 0; turn <= TAPE_MOST && more; turn++) {
-                more = tokens.kind != ';' && readPart(voice);
+                if (beginsEvent()) {
+                    more = isShallow() && readEvent(voice);
+                } else {
+                    more = tokens.kind != ';' && readPart();
+                }
             }
             if (fault != 0) {
                 return false;
@@ -732,7 +735,17 @@ public final class PlainMusic {
             return true;
         }
 
-        private boolean readPart(Voice voice) {
+        private boolean beginsEvent() {
+            return tokens.kind == Tokens.PITCH || tokens.kind == Tokens.REST || tokens.kind == '<';
+        }
+
+        /** Whether what begins here does not stand within too many others. */
+        private boolean isShallow() {
+            return parts.depth <= DEEPEST || blame(3, tokens.place);
+        }
+
+        /** A part that is no event, or what goes on with or ends one. */
+        private boolean readPart() {
             int kind = tokens.kind;
             if (kind == ':' || kind == ']' || kind == '}') {
                 if (!parts.addMark(kind)) {
@@ -741,26 +754,18 @@ public final class PlainMusic {
                 tokens.next();
                 return true;
             }
-            if (!beginsPart(kind)) {
+            if (kind != '|' && kind != '[' && kind != '{') {
                 return refuse();
             }
-            if (parts.depth > DEEPEST) {
-                return blame(3, tokens.place);
+            if (!isShallow()) {
+                return false;
             }
             if (kind == '{') {
                 return readStretch();
             }
-            if (kind == '|' || kind == '[') {
-                parts.add(kind, 0, 0);
-                tokens.next();
-                return true;
-            }
-            return readEvent(voice);
-        }
-
-        private static boolean beginsPart(int kind) {
-            return kind == Tokens.PITCH || kind == Tokens.REST || kind == '<'
-                || kind == '|' || kind == '[' || kind == '{';
+            parts.add(kind, 0, 0);
+            tokens.next();
+            return true;
         }
 
         private boolean readStretch() {
@@ -941,7 +946,10 @@ public final class PlainMusic {
                 } else if (kind == '|') {
                     meetLine(voice);
                 } else {
-                    meetEvent(voice, values[i], top, bottom);
+                    eventsMet++;
+                    if (eventsMet <= EVENTS_MOST && timely) {
+                        timely = voice.addEvent(values[i], top, bottom);
+                    }
                 }
                 i++;
             }
@@ -971,13 +979,6 @@ public final class PlainMusic {
             linesMet++;
             if (linesMet <= LINES_MOST) {
                 voice.addBar();
-            }
-        }
-
-        private void meetEvent(Voice voice, int sound, long top, long bottom) {
-            eventsMet++;
-            if (eventsMet <= EVENTS_MOST && timely) {
-                timely = voice.addEvent(sound, top, bottom);
             }
         }
     }
