@@ -16,6 +16,8 @@ public final class TextsTest {
         times();
         restsHeld();
         leastFaultOfAToken();
+        oneAfterAnother();
+        fullTape();
         scoreStays();
         told();
         walks();
@@ -36,6 +38,38 @@ public final class TextsTest {
         Texts.feedExactly(music, text);
         Due.is("score() of " + text, music.score(), -10 - fault);
         Due.is("place() of " + text, music.place(), place);
+    }
+
+    /** What one text had leaves nothing behind for the next one. */
+    private static void oneAfterAnother() {
+        PlainMusic music = new PlainMusic();
+        for (int i = 0; i < 20; i++) {
+            String name = "n" + (char) ('a' + i);
+            Texts.feedExactly(music, "rule " + name + " = " + name + name + "; line C4; row " + name + "; time 3/4; voice "
+                + Texts.times(20, "r4 ") + ";");
+            Due.is("score() no. " + i, music.score(), 20);
+            Due.is("place() no. " + i, music.place(), -2);
+            Texts.feedExactly(music, "rule x" + name + " = y" + name + "; line C4 D4; row z; time 2/4; voice [ C4 4;");
+            Due.is("score() behind no. " + i, music.score(), -12);
+        }
+        Due.is("told(1)", music.told(1), 1);
+        Due.is("told(2)", music.told(2), 1);
+        Due.is("told(3)", music.told(3), 1);
+        Due.is("told(0)", music.told(0), 1);
+    }
+
+    private static void fullTape() {
+        fine("voice " + Texts.times(12, "|") + Texts.times(1981, " ") + ";", 0);
+        wrong("voice " + Texts.times(1994, "|"), 2, 2000);
+        wrong("voice " + Texts.times(1993, "|") + ";", 3, 0);
+        wrong("voice " + Texts.times(1993, "|") + "a", 2, 1999);
+        wrong("voice " + Texts.times(1993, "|") + "A", 1, 1999);
+        wrong("voice C4 4" + Texts.times(1990, "4"), 1, 9);
+        wrong("voice C4 4;" + Texts.times(1989, "a"), 1, 11);
+        wrong(Texts.times(1999, " ") + "[", 2, 1999);
+        wrong(Texts.times(1991, " ") + "voice C44", 2, 2000);
+        wrong(Texts.times(1991, " ") + "rule a=bc", 2, 2000);
+        fine(Texts.times(1992, " ") + "voice|;%", 0);
     }
 
     private static void aNewObject() {
@@ -145,6 +179,9 @@ public final class TextsTest {
         wrong("time 3/4  ", 2, 10);
         wrong("time 3/4 % x", 2, 12);
         wrong("time r;", 2, 5);
+        wrong("time /0;", 2, 5);
+        wrong("voice {/0:};", 2, 7);
+        wrong("voice C4 ..../;", 2, 9);
         wrong("voice", 2, 5);
         wrong("voice C4", 2, 8);
         wrong("voice C4;", 2, 8);
