@@ -784,7 +784,6 @@ public final class PlainMusic {
 
         private boolean readEvent(Voice voice) {
             boolean rest = tokens.kind == Tokens.REST;
-            voice.beginSound();
             if (!readSound(voice)) {
                 return false;
             }
@@ -991,6 +990,7 @@ public final class PlainMusic {
         private final int[] pitchKeys = new int[EVENTS_MOST];
         private final int[] pitchSteps = new int[EVENTS_MOST];
         private int pitches;
+        /** The PITCHES ahead of a sound; behind the last sound stand all. */
         private final int[] soundPitches = new int[EVENTS_MOST + 1];
         private final int[] soundNumbers = new int[EVENTS_MOST];
         private final int[] soundDots = new int[EVENTS_MOST];
@@ -1011,13 +1011,7 @@ public final class PlainMusic {
         void clear() {
             pitches = 0;
             sounds = 0;
-            beginWalk();
-        }
-
-        void beginSound() {
-            if (sounds < soundPitches.length) {
-                soundPitches[sounds] = pitches;
-            }
+            soundPitches[0] = 0;
         }
 
         void addPitch(int key, int step) {
@@ -1028,7 +1022,7 @@ public final class PlainMusic {
             }
         }
 
-        /** The number of the sound that was begun last. */
+        /** A sound of the PITCHES added since the one before; its number. */
         int endSound(int number, int dots, boolean tied) {
             if (sounds >= soundNumbers.length) {
                 return 0;

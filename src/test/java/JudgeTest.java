@@ -1,3 +1,5 @@
+import java.util.List;
+
 /** Promises 9 and 10: judge, fault. */
 public final class JudgeTest {
     private JudgeTest() {
@@ -116,6 +118,9 @@ public final class JudgeTest {
         judged("voice r4 A4 4; voice C4 4 D4 4;");
         judged("voice G4 4 A4 4; voice r4 D4 4;");
         judged("voice G4 4 r4; voice C4 4 D4 4;");
+        judged("voice G4 4 A4 4; voice C4 4 r4 D4 4;");
+        judged("voice G4 4 r4 A4 4; voice C4 4 D4 4;");
+        judged("voice r4 G4 4; voice C4 4 C3 4;");
         judged("voice G4 4 A4 4; voice C4 2 D4 2;");
         judged("voice G4 2 A4 4; voice r4 C4 4 D4 4;", 5120);
         judged("voice G4 2 A4 4; voice D4 4 C4 4 D4 4;", 5120);
@@ -146,16 +151,26 @@ public final class JudgeTest {
         for (int k : new int[] {-1, 2, 7000, Integer.MIN_VALUE, Integer.MAX_VALUE}) {
             Due.is("fault(" + k + ", 0)", music.fault(k, 0), -1);
         }
-        String high = "[[[[[[C4 64~ C7 64~ C4 64~ C7 64~ ]]]]]]" + Texts.times(44, "C4 64~");
-        music = Texts.scored("time 1/1; voice " + high.replace('4', '0').replace("60", "64") + ";"
-            + "voice " + high.replace('4', '1').replace("61", "64") + ";");
-        Due.is("EVENTS", music.count(1, 0), 300);
-        int faults = music.judge();
-        Oracle oracle = new Oracle("time 1/1; voice " + high.replace('4', '0').replace("60", "64") + ";"
-            + "voice " + high.replace('4', '1').replace("61", "64") + ";");
-        Due.is("many faults", faults, oracle.judge().size());
-        Due.is("the last one's EVENT", music.fault(faults - 1, 2), 299);
-        Due.is("the last one's voice", music.fault(faults - 1, 1), 1);
+        mostFaults();
+    }
+
+    /** Nearly all that can be found in one score. */
+    private static void mostFaults() {
+        StringBuilder text = new StringBuilder("time 1/1;");
+        for (int v = 0; v < 4; v++) {
+            String pair = "C" + v + "64~C" + (v + 4) + "64~";
+            text.append("voice[[[[[[|" + pair + pair + "]]]]]]" + Texts.times(22, pair) + ";");
+        }
+        List<int[]> due = new Oracle(text.toString()).judge();
+        PlainMusic music = Texts.scored(text.toString());
+        Due.is("many faults", due.size() > 6000 ? 1 : 0, 1);
+        Due.is("judge()", music.judge(), due.size());
+        for (int k = 0; k < due.size(); k++) {
+            for (int what = 0; what < 4; what++) {
+                Due.is("fault(" + k + ", " + what + ") of many", music.fault(k, what), due.get(k)[what]);
+            }
+        }
+        Due.is("behind the last", music.fault(due.size(), 0), -1);
     }
 
     private static void whenFound() {

@@ -17,6 +17,8 @@ public final class TextsTest {
         restsHeld();
         leastFaultOfAToken();
         oneAfterAnother();
+        voicesApart();
+        manyBars();
         fullTape();
         scoreStays();
         told();
@@ -56,6 +58,43 @@ public final class TextsTest {
         Due.is("told(2)", music.told(2), 1);
         Due.is("told(3)", music.told(3), 1);
         Due.is("told(0)", music.told(0), 1);
+    }
+
+    /** Nor has one voice what those ahead of it had. */
+    private static void voicesApart() {
+        String lines = "voice " + Texts.times(60, "|") + ";";
+        fine(lines + lines + lines + lines, 0);
+        String events = "voice [[" + Texts.times(50, "C464") + "]];";
+        fine(events + events + events + events, 800);
+        String parts = "voice [[[[[[[]]]]]]][[[[[[[]]]]]]][[[[[[[]]]]]]];";
+        fine(parts + parts + parts + parts, 0);
+        String long1 = "voice {1/16:{1/16: C4 1 D4 1}};";
+        fine(long1 + long1 + long1 + long1, 8);
+        PlainMusic music = new PlainMusic();
+        for (int i = 0; i < 12; i++) {
+            Texts.feedExactly(music, "voice <C4 E4 G4>4;" + events.replace("C", "D") + lines + parts);
+            Due.is("score() no. " + i, music.score(), 201);
+            Due.is("the first KEY", music.event(0, 0, 10), 48);
+            Due.is("the last KEY", music.event(1, 199, 10), 50);
+            Due.is("the last START", music.event(1, 199, 0), 199);
+            Due.is("BARS", music.count(2, 1), 61);
+        }
+    }
+
+    private static void manyBars() {
+        PlainMusic music = Texts.scored("voice r1" + Texts.times(99, "|") + "C4 8|D#4 16 D4 16;");
+        Due.is("BARS", music.count(0, 1), 101);
+        Due.is("told(4)", music.told(4), 101);
+        Due.is("BAR 99", music.event(0, 1, 6), 99);
+        Due.is("BAR 100", music.event(0, 3, 6), 100);
+        Due.is("width(100)", music.width(100), 29);
+        Due.is("width(99)", music.width(99), 18);
+        Due.is("width(101)", music.width(101), -1);
+        Due.is("beam(0, 100)", music.beam(0, 100), 1);
+        Due.is("group(0)", music.group(0), 2);
+        Due.is("beam(0, 101)", music.beam(0, 101), -1);
+        Due.is("judge()", music.judge(), 99);
+        Due.is("fault(98, 3)", music.fault(98, 3), 99);
     }
 
     private static void fullTape() {
