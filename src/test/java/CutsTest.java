@@ -11,6 +11,7 @@ public final class CutsTest {
         beamsNotTried();
         groupsStay();
         widths();
+        manyTimes();
         lineCosts();
         pagesNotTried();
         linesStay();
@@ -160,6 +161,16 @@ public final class CutsTest {
         wide("voice C4 4|C4 4;voice {16/1:{16/1: C4 1|C4 2 C4 2 C4 1}};voice {15/1:{15/1:{13/1:C4 1|C4 1 C4 1}}};", 18, 42);
     }
 
+    /** A BAR with more times than one voice has EVENTS. */
+    private static void manyTimes() {
+        String part = "[[[[[" + Texts.times(8, "C4 64 ") + "]]]]]" + Texts.times(44, "r64");
+        String text = "voice " + part + "; voice {3/2:" + part + "}; voice {5/4:" + part + "}; voice {7/4:" + part + "};";
+        PlainMusic music = Texts.scored(text);
+        Due.is("width(0) of many times", music.width(0), new Oracle(text).width(0));
+        Due.is("more than 800 times", music.width(0) > 6400 ? 1 : 0, 1);
+        Due.is("breaks(1) of many times", music.breaks(1), new Oracle(text).breaks(1).get(0));
+    }
+
     private static void laid(PlainMusic music, int w, int cost, int... due) {
         Due.is("breaks(" + w + ")", music.breaks(w), cost);
         for (int i = 0; i < due.length; i++) {
@@ -229,5 +240,12 @@ public final class CutsTest {
         Texts.feedExactly(music, "voice C4 1|C4 1|C4 1;");
         music.score();
         Due.is("line(0) of another score", music.line(0), 0);
+        laid(music, 17, 30003, 1, 1, 1);
+        Texts.feedExactly(music, "voice C4 1|C4 1;");
+        music.score();
+        laid(music, 17, 20002, 1, 1);
+        Texts.feedExactly(music, "voice C4 1;");
+        music.score();
+        laid(music, 17, 10001, 1);
     }
 }
