@@ -273,6 +273,9 @@ public final class SearchesTest {
         music = Texts.scored(million + "rule w=y x; rule y=a; row a a a a a a;");
         Due.is("a million and 100000", music.readings(), -4);
         Due.is("tree(0, 0)", music.tree(0, 0), -1);
+        music = Texts.scored(million + "rule s=k m;rule m=k n;rule n=k o;rule o=k p;rule p=k k;rule k=a;row a a a a a a;");
+        Due.is("a million and 1", music.readings(), -4);
+        Due.is("tree(0, 0)", music.tree(0, 0), -1);
         String most = Texts.times(12, "rule a=a a;") + Texts.times(12, "rule a=a;");
         music = Texts.scored(most + "row a a a a a a a a a a a a;");
         Due.is("the most that can be", music.readings(), -4);
