@@ -1971,7 +1971,6 @@ public final class PlainMusic {
 
         void forget() {
             firsts = 0;
-            others = 0;
             leastWays = 0;
         }
 
