@@ -29,17 +29,11 @@ public final class TextsTest {
     }
 
     private static void fine(String text, int events) {
-        PlainMusic music = new PlainMusic();
-        Texts.feedExactly(music, text);
-        Due.is("score() of " + text, music.score(), events);
-        Due.is("place() of " + text, music.place(), -2);
+        Texts.taken(text, events);
     }
 
     private static void wrong(String text, int fault, int place) {
-        PlainMusic music = new PlainMusic();
-        Texts.feedExactly(music, text);
-        Due.is("score() of " + text, music.score(), -10 - fault);
-        Due.is("place() of " + text, music.place(), place);
+        Texts.refused(text, fault, place);
     }
 
     /** What one text had leaves nothing behind for the next one. */

@@ -23,7 +23,8 @@ final class Due {
     private static void tell(String call, String got, String want) {
         wrong++;
         if (wrong <= 40) {
-            System.out.println(call + " answered " + got + ", due is " + want);
+            String shown = call.length() > 200 ? call.substring(0, 200) + ".." : call;
+            System.out.println(shown + " answered " + got + ", due is " + want);
         }
     }
 

@@ -36,6 +36,22 @@ final class Texts {
         return music;
     }
 
+    /** The text has no FAULT, and so many EVENTS. */
+    static void taken(String text, int events) {
+        PlainMusic music = new PlainMusic();
+        feedExactly(music, text);
+        Due.is("score() of " + text, music.score(), events);
+        Due.is("place() of " + text, music.place(), -2);
+    }
+
+    /** The text has this FAULT at this place. */
+    static void refused(String text, int fault, int place) {
+        PlainMusic music = new PlainMusic();
+        feedExactly(music, text);
+        Due.is("score() of " + text, music.score(), -10 - fault);
+        Due.is("place() of " + text, music.place(), place);
+    }
+
     static String times(int n, String part) {
         StringBuilder all = new StringBuilder();
         for (int i = 0; i < n; i++) {
