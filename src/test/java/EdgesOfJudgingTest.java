@@ -124,6 +124,8 @@ public final class EdgesOfJudgingTest {
         judged("voice r4 C8 4 r4 C0 4;");
         judged("voice C0 4 r4;");
         judged("voice C0 4 r4 C8 4 C0 4;", 3030);
+        judged("voice [r4:C0 4:C8 4];");
+        judged("voice C8 4 r4 C0 4;");
     }
 
     /** "4: .. an EVENT that sounds at one time with it" */
@@ -189,6 +191,10 @@ public final class EdgesOfJudgingTest {
         judged("voice G4 4 A4 4; voice C4 4 r4;");
         judged("voice r4 G4 4 A4 4 r4; voice r4 C4 4 D4 4 r4;", 5120);
         judged("voice A4 4; voice D4 4;");
+        judged("voice G4 4 A4 4 r4; voice C4 4 r4 D4 4;");
+        judged("voice r4 r4 G4 4 A4 4; voice [r4:C4 4:D4 4];");
+        judged("voice G4 4 r4 A4 4; voice C4 4 D4 4 r4;");
+        judged("voice [r4:G4 4:A4 4]; voice r4 r4 C4 4 D4 4;");
     }
 
     /** "the lowest KEYS .. as far from each other in both pairs, modulo 12 .., and this is 0 or 7" */

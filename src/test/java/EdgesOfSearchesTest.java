@@ -154,6 +154,11 @@ public final class EdgesOfSearchesTest {
             row(down, 8, true, key, key);
             row(down, 8, !perfect, key + 1, key);
         }
+        row(line(50, 51), 8, false, 50, 51);
+        row(line(51, 50), 8, false, 51, 50);
+        row(line(50, 51), 8, false, 57, 58);
+        row(line(50, 51), 8, true, 59, 58);
+        row(line(50, 51), 1, false, 50, 53);
         row(line(50, 50), 8, true, 49, 50);
         row(line(50, 50), 8, true, 51, 50);
         row(up, 8, true, 50, 53);
