@@ -19,6 +19,7 @@ public final class EdgesOfJudgingTest {
         ofALesserNumber();
         oneFaultForEachOther();
         theSameStart();
+        otherHasEnded();
         noRestsInBothPairs();
         zeroOrSevenModuloTwelve();
         ofOtherLessTheOtherOnes();
@@ -181,6 +182,15 @@ public final class EdgesOfJudgingTest {
         judged("voice {3/2:G4 4 A4 4}; voice {13/8:C4 4 D4 4};");
         judged("voice G4 4 A4 4; voice C4 4;");
         judged("voice G4 4; voice C4 4 D4 4;");
+    }
+
+    /** Where OTHER has no EVENT any more, nothing of it sounds or begins. */
+    private static void otherHasEnded() {
+        judged("voice C4 4; voice C4 4 C5 4;");
+        judged("voice C4 4 C5 4; voice C4 4 C5 4 C6 4;", 5110);
+        String text = "time 32/1; voice " + Texts.times(300, "C0 64") + "; voice r1 r1 r1 r1 r1 D4 4 E4 4;";
+        judged(text);
+        judged(text.replace("r1 r1 r1 r1 r1 D4 4", "r1 r1 r1 r1 r2 D4 4"), 4150);
     }
 
     /** "it, the EVENT just before it, this one, the one just before this one are no rests" */

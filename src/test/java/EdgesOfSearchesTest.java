@@ -29,6 +29,7 @@ public final class EdgesOfSearchesTest {
         twoNames();
         firstRulesName();
         byOrderOfRules();
+        sixteenthNameAtTheTwelfthPlace();
         moreThanAMillion();
         readingsWithoutRuleOrRow();
         treeOfNone();
@@ -379,6 +380,16 @@ public final class EdgesOfSearchesTest {
         reads("rule a = a a;" + Texts.times(3, "rule a=b;") + "row" + Texts.times(8, " b") + ";", -4);
         reads("rule a = a a;" + Texts.times(3, "rule a=b;") + "row" + Texts.times(7, " b") + ";", 132 * 2187);
         reads(Texts.times(12, "rule a=a a;") + Texts.times(12, "rule a=b;") + "row" + Texts.times(12, " b") + ";", -4);
+    }
+
+    /** The last NAME and the last place that there can be take part like all others. */
+    private static void sixteenthNameAtTheTwelfthPlace() {
+        PlainMusic music = Texts.scored("rule a=c d;rule e=f g;rule h=i j;rule k=l m;rule n=o b;rule a=a p;rule a=b;rule p=b;"
+            + "row b b b b b b b b b b b b;");
+        Due.is("readings() by sixteen NAMES", music.readings(), 1);
+        for (int i = 0; i < 23; i++) {
+            Due.is("tree(0, " + i + ") by sixteen NAMES", music.tree(0, i), i < 11 ? 5 : i == 11 ? 6 : 7);
+        }
     }
 
     /** Promise 18: "NO: the score has no rule, or no row" */
